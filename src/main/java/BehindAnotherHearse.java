@@ -320,10 +320,25 @@ public final class BehindAnotherHearse {
         return answer;
     }
 
+    // The text is read twice: nothing is done if a later sign can't stand.
     public int hour() {
         int fault = hourFault();
-        int done = fault == NONE ? doHour() : -1 - fault;
+        int done = 0;
+        boolean refused = false;
+        before.copyFrom(now);
+        text.open(HOUR_SIGNS);
+        for (int n = 0; n < HOUR_SIGNS && fault == NONE && !refused && !text.isRead(); n++) {
+            refused = !isDone(doAct());
+            done += refused ? 0 : 1;
+        }
         text.clear();
+        if (fault != NONE) {
+            return -1 - fault;
+        }
+        if (done > 0) {
+            history.add(before);
+        }
+        told.tellTwo(refused ? 1 : 0, now.step);
         return done;
     }
 
@@ -348,22 +363,6 @@ public final class BehindAnotherHearse {
             return false;
         }
         return !isPush && act != 'x' || text.digit() != NONE;
-    }
-
-    private int doHour() {
-        before.copyFrom(now);
-        text.open(HOUR_SIGNS);
-        int done = 0;
-        boolean refused = false;
-        for (int n = 0; n < HOUR_SIGNS && !refused && !text.isRead(); n++) {
-            refused = !isDone(doAct());
-            done += refused ? 0 : 1;
-        }
-        if (done > 0) {
-            history.add(before);
-        }
-        told.tellTwo(refused ? 1 : 0, now.step);
-        return done;
     }
 
     private int doAct() {
@@ -1223,7 +1222,7 @@ public final class BehindAnotherHearse {
         int takenCells() {
             int bits = 0;
             for (int hearse = 0; hearse < hearseCount; hearse++) {
-                bits |= hasArrived(hearse) ? 0 : 1 << cell[hearse];
+                bits |= cell[hearse] < 0 ? 0 : 1 << cell[hearse];
             }
             return bits;
         }
@@ -1264,7 +1263,7 @@ public final class BehindAnotherHearse {
             for (int hearse = 0; hearse < hearseCount; hearse++) {
                 int way = Math.abs(cell[hearse] - from);
                 boolean isNearer = way < least || way == least && cell[hearse] > from;
-                if (isNearer && !hasArrived(hearse)) {
+                if (isNearer && cell[hearse] >= 0) {
                     nearest = hearse;
                     least = way;
                 }
@@ -1605,7 +1604,7 @@ public final class BehindAnotherHearse {
         private void moveHearse(Scene scene, Law law, int hearse) {
             int from = scene.cell[hearse];
             law.observe(scene, street, hearse);
-            int to = goal(scene, from, law.pace());
+            int to = goal(scene.takenCells(), from, law.pace());
             if (to == NONE) {
                 waits++;
                 waitsOn[from]++;
@@ -1619,8 +1618,8 @@ public final class BehindAnotherHearse {
             }
         }
 
-        private int goal(Scene scene, int from, int pace) {
-            int taken = scene.takenCells();
+        /** The farthest cell to which a hearse can go, or NONE; sets of cells are bits. */
+        private int goal(int taken, int from, int pace) {
             for (int to = Math.min(from + pace, street.gate()); to > from; to--) {
                 int upTo = (2 << to) - (1 << from);
                 int between = (1 << to) - (2 << from);
