@@ -83,6 +83,8 @@ public final class OthersTest {
 
     private static void heard() {
         BehindAnotherHearse x = Due.scene("........", "1;5;0", "0b;0a;6a;6b", "1");
+        Due.is("heard(1, 6)", x.heard(1, 6) + x.heard(0, 8) + x.heard(2, 8), 6);
+        Due.is("all are forgotten", x.forget(), 3);
         int[][] refused = {{0, -1}, {0, 9}, {1, 0}, {1, 7}, {2, -1}, {2, 9}, {3, -1}, {3, 2}, {-1, 0}, {4, 0}};
         for (int[] one : refused) {
             Due.is("heard(" + one[0] + ", " + one[1] + ")", x.heard(one[0], one[1]), -1);
@@ -191,6 +193,22 @@ public final class OthersTest {
             Due.is("nothing has changed", x.count(3) * 10 + x.count(10), 0);
             Due.is("years(1, 0)", x.years(1, 0), -1);
             Due.is("years(1, 61)", x.years(1, 61), -1);
+        }
+        // One mourner: a DRAW of 1 more for a turn, a DRAW of 1 and a DRAW of 5 more for a push.
+        for (int seed : seeds) {
+            int r = seed;
+            int steps = 0;
+            BehindAnotherHearse x = Due.scene("...............", "0", "0a", "1");
+            for (int n = 1; n <= 60; n++) {
+                r = r * 1103515245 + 12345;
+                int lot = (r >>> 16) % 4;
+                steps += lot < 2 ? 1 : 0;
+                for (int more = 2; more <= lot; more++) {
+                    r = r * 1103515245 + 12345;
+                }
+                Due.is("years(" + seed + ", " + n + ") with one", x.years(seed, n), steps >= 14 ? 1 : 0);
+                Due.row("years(" + seed + ", " + n + ") with one", x, steps >= 14 ? 1 : 0, steps >= 14 ? 1 : 0);
+            }
         }
         BehindAnotherHearse y = Due.scene("......", "3;1", "3a;1a;1b", "2");
         Due.is("all ARRIVED", y.years(5, 60), 2);
