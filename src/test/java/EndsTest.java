@@ -55,6 +55,9 @@ public final class EndsTest {
         BehindAnotherHearse y = Due.scene("........", "5;3;0;1", "", "1");
         Due.is("of as good ones the least row", y.order(), 0);
         Due.row("of as good ones the least row", y, 0, 1, 3, 5);
+        BehindAnotherHearse w = Due.scene("..............", "0;2;4;6;8;10", "10a;8b;6c;4d;2e;0f", "1");
+        Due.is("the last one of all", w.order(), 6);
+        Due.row("the last one of all", w, 10, 8, 6, 4, 2, 0);
         BehindAnotherHearse z = Due.scene("........", "5;6;0", "6b;5b;1c", "1");
         z.steps(1);
         Due.is("only those that have not ARRIVED", z.order(), 1);

@@ -71,6 +71,17 @@ public final class LineTest {
         Due.is("nor if it stood elsewhere", z.stands(0), -2);
         Due.is("but if it turns later, there are more STEPS", z.when(0), 20);
         Due.row("but if it turns later, there are more STEPS", z, 60);
+        z.steps(19);
+        Due.is("in 201 STEPS", z.arrives(0), -2);
+        Due.is("in 201 STEPS", z.ends(0), -2);
+        Due.is("in 201 STEPS", z.right(), 0);
+        z.heard(1, 1);
+        Due.is("in 201 STEPS", z.fits(), 0);
+        z.steps(1);
+        Due.is("in 200 STEPS", z.arrives(0), 200);
+        Due.is("in 200 STEPS", z.ends(0), 0);
+        Due.is("in 200 STEPS", z.right(), 1);
+        Due.is("in 200 STEPS", z.fits(), 1);
     }
 
     private static void jam() {

@@ -255,6 +255,13 @@ public final class OthersTest {
         x.keep(1);
         Due.avenue(x, "....");
         Due.is("nothing is kept", x.again(1), false);
+        for (int i = 0; i < 3; i++) {
+            x.keep(i);
+        }
+        Due.avenue(x, "....");
+        for (int i = 0; i < 3; i++) {
+            Due.is("nothing is kept, though there are as many", x.again(i), false);
+        }
         Due.rule(x, "2");
         Due.hearses(x, "0");
         x.keep(0);
