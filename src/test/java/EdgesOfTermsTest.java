@@ -564,13 +564,14 @@ public final class EdgesOfTermsTest {
     private static BehindAnotherHearse late(boolean isTooLate) {
         BehindAnotherHearse x = Due.scene(isTooLate ? "............" : "...........", "0", "0a", "w");
         Due.weather(x, RARE);
+        x.steps(isTooLate ? 19 : 0);
         return x;
     }
 
     private static void theEnd() {
         for (int k = 0; k < 2; k++) {
             boolean in = k == 0;
-            String name = in ? "behind 200 STEPS: " : "behind 201 or more: ";
+            String name = in ? "behind 200 STEPS: " : "behind 201 STEPS: ";
             Due.is(name + "arrives", late(!in).arrives(0), in ? 200 : -2);
             Due.is(name + "ends", late(!in).ends(0), in ? 0 : -2);
             Due.is(name + "right", late(!in).right(), in ? 1 : 0);
