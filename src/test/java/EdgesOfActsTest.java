@@ -239,6 +239,11 @@ public final class EdgesOfActsTest {
             }
         }
         Due.is("no MOURNERS", new BehindAnotherHearse().sheet(2, 8, 2, 0), 0);
+        BehindAnotherHearse y = Due.scene("..........", "0", "1a;2a;3a;4a;5a;6a;7a;8a", "");
+        Due.is("eight of eight", y.sheet(2, 8, 0, 1), 28);
+        Due.is("seven of eight", y.sheet(2, 7, 1, 1), 28);
+        Due.is("none of eight", y.sheet(2, 0, 1, 1), 0);
+        Due.is("missing, of eight", y.sheet(3, 8, 1, 1), -3);
     }
 
     private static void sheetMissing() {

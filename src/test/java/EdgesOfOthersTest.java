@@ -66,6 +66,12 @@ public final class EdgesOfOthersTest {
         BehindAnotherHearse y = Due.scene("..........", "0;1;2", "", "");
         Due.is("no MOURNERS", y.shares(30), 0);
         Due.row("no MOURNERS", y);
+        Due.avenue(x, "..........");
+        Due.hearses(x, "0;1;2;3;4;5");
+        for (int mourners = 0; mourners < 7; mourners++) {
+            Due.is("fewer than there were: " + mourners, x.shares(30), mourners);
+            Due.mourners(x, "0a");
+        }
         BehindAnotherHearse z = Due.scene("....", "2", "2a;1a", "3");
         z.steps(1);
         Due.mourners(z, "0a");
@@ -123,6 +129,11 @@ public final class EdgesOfOthersTest {
         y.steps(2);
         Due.is("two have ENDED", y.count(5), 2);
         Due.is("one alone", y.strangers(), -2);
+        BehindAnotherHearse z = Due.scene("....", "0;1", "0a;0a;0a;0a;0a;0a;0a;0a", "");
+        Due.is("eight of like OWN ones", z.strangers(), -2);
+        BehindAnotherHearse w = Due.scene("....", "0;1", "0a;0a;0a;0a;0a;0a;0a;1b", "");
+        Due.is("the eighth", w.strangers(), 1);
+        Due.row("the eighth", w, 0, 7);
     }
 
     private static void doubtsOfTwo() {
@@ -330,7 +341,7 @@ public final class EdgesOfOthersTest {
 
     private static void restsOfAll() {
         int withNone = 0;
-        int withMany = 0;
+        BehindAnotherHearse b = new BehindAnotherHearse();
         for (int v = 0; v <= 20; v++) {
             List<int[]> pairs = new ArrayList<>();
             for (int x = 0; x <= 9; x++) {
@@ -344,18 +355,16 @@ public final class EdgesOfOthersTest {
                     }
                 }
             }
-            BehindAnotherHearse b = new BehindAnotherHearse();
+            b.right();
             Due.is("rests(" + v + ")", b.rests(v), pairs.size());
             if (pairs.isEmpty()) {
                 withNone++;
                 Due.row("nothing without: rests(" + v + ")", b);
             } else {
-                withMany += pairs.size() > 1 ? 1 : 0;
                 Due.row("the least: rests(" + v + ")", b, pairs.get(0)[0], pairs.get(0)[1]);
             }
         }
         Due.is("there are v without a pair", withNone > 0, true);
-        System.out.println("rests: " + withNone + " without a pair, " + withMany + " with more than one");
     }
 
     private static void yearsRefused() {

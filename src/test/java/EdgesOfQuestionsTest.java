@@ -30,6 +30,7 @@ public final class EdgesOfQuestionsTest {
         misleadsWithoutHearses();
         crowdOfEqualOnes();
         crowdWithoutHearses();
+        questionsOneBehindAnother();
         Due.end();
     }
 
@@ -253,6 +254,14 @@ public final class EdgesOfQuestionsTest {
         Due.row("one that matters", y, 10, 0, 2, 4, 6, 8);
         Due.is("as it is", y.right(), 0);
         Due.is("changed so it is right", y.swaps(0, 5) + y.right(), 11);
+        Due.is("asked again", y.order(), 1);
+        Due.row("asked again", y, 10, 0, 2, 4, 6, 8);
+        BehindAnotherHearse z = Due.scene("..............", "10;8;6;4;2;0", "10a;8b", "0");
+        Due.is("none is right by any", z.order(), 0);
+        Due.row("the least row, though none is right", z, 0, 2, 4, 6, 8, 10);
+        BehindAnotherHearse w = Due.scene("..............", "0;2;4;6;8;10", "10a;8b;6c;4d;2e;0f;0f;0f", "1");
+        Due.is("the last order of all", w.order(), 8);
+        Due.row("the last order of all", w, 10, 8, 6, 4, 2, 0);
     }
 
     private static void standsFromTheFirstToTheLast() {
@@ -269,6 +278,13 @@ public final class EdgesOfQuestionsTest {
         BehindAnotherHearse z = Due.scene("..........", "7;0", "0a", "i=0");
         Due.is("only the last ones", z.stands(0), 4);
         Due.row("only the last ones", z, 5);
+        // on CELL 4 it is as near to both, and if it FOLLOWED none, it would FOLLOW the one that is ahead
+        BehindAnotherHearse w = Due.scene("..........", "2;6", "4a", "t>0");
+        w.turnsTo(0);
+        Due.is("it ends right, since it FOLLOWS its OWN", w.right(), 1);
+        Due.is("FOLLOWING none", w.stands(0), 0);
+        Due.row("FOLLOWING none", w, 4);
+        Due.is("it FOLLOWS as it did", w.mourner(0, 2), 0);
     }
 
     private static void standsFromNone() {
@@ -398,6 +414,9 @@ public final class EdgesOfQuestionsTest {
     }
 
     private static void misleadsWithoutHearses() {
+        BehindAnotherHearse z = Due.scene("........", "3;5", "3a;3a;3a;3a;3a;3a;3a;3a", "1");
+        Due.is("eight MOURNERS", z.misleads(), 1);
+        Due.row("eight MOURNERS", z, 8, 8);
         BehindAnotherHearse x = new BehindAnotherHearse();
         Due.is("no HEARSES", x.misleads(), -2);
         Due.is("no ROW", x.count(11), 0);
@@ -435,5 +454,65 @@ public final class EdgesOfQuestionsTest {
         Due.row("one that has ARRIVED", y, 1, 1);
         Due.avenue(y, "....");
         Due.is("no HEARSES any more", y.crowd(), -2);
+    }
+
+    private static final int QUESTIONS = 26;
+
+    /** "Questions change nothing": each answers behind each other one as it does alone. */
+    private static void questionsOneBehindAnother() {
+        for (int kind = 1; kind < Twins.KINDS; kind++) {
+            for (int q = 0; q < QUESTIONS; q++) {
+                String alone = asked(Twins.build(kind), q);
+                BehindAnotherHearse x = Twins.build(kind);
+                for (int other = 0; other < QUESTIONS; other++) {
+                    asked(x, other);
+                    Due.is(Twins.NAMES[kind] + ": question " + q + " behind " + other, asked(x, q).equals(alone), true);
+                    if (x.count(11) > 0 && other % 6 == 5) {
+                        x = Twins.build(kind);
+                    }
+                }
+            }
+        }
+    }
+
+    /** The answer and its ROW; a ROW that a question leaves is not its own. */
+    private static String asked(BehindAnotherHearse x, int q) {
+        x.rests(10);
+        StringBuilder all = new StringBuilder().append(answer(x, q));
+        for (int i = 0; i < x.count(11); i++) {
+            all.append(' ').append(x.row(i));
+        }
+        return all.toString();
+    }
+
+    private static int answer(BehindAnotherHearse x, int q) {
+        switch (q) {
+            case 0: return x.line();
+            case 1: return x.ahead(3);
+            case 2: return x.ahead(99);
+            case 3: return x.arrives(0);
+            case 4: return x.arrives(1);
+            case 5: return x.jam(4);
+            case 6: return x.jam(60);
+            case 7: return x.passes(0, 1);
+            case 8: return x.passes(1, 0);
+            case 9: return x.ends(0);
+            case 10: return x.ends(1);
+            case 11: return x.right();
+            case 12: return x.order();
+            case 13: return x.stands(0);
+            case 14: return x.stands(2);
+            case 15: return x.when(1);
+            case 16: return x.mends(2);
+            case 17: return x.misleads();
+            case 18: return x.crowd();
+            case 19: return x.shares(2);
+            case 20: return x.strangers();
+            case 21: return x.doubts();
+            case 22: return x.fits();
+            case 23: return Due.law(x, "3");
+            case 24: return x.years(7, 30);
+            default: return x.rains(3, 2, 5);
+        }
     }
 }

@@ -410,6 +410,8 @@ public final class EdgesOfTermsTest {
         Due.rule(x, "0");
         x.steps(1);
         thing(x, "m", 8, 0, 0, 0, 0, 0);
+        BehindAnotherHearse z = Due.scene("..............................", "5;3;0;6;10;20", "", "");
+        thing(z, "g", 0, 1, 2, 3, 9, 9);
         BehindAnotherHearse y = Due.scene("....", "0", "", "0");
         for (int step = 0; step <= 21; step++) {
             thing(y, "t", step % 10);
@@ -439,6 +441,7 @@ public final class EdgesOfTermsTest {
         mournersChangeOver();
         mournersWithoutHearses();
         endedInTheStepOfArrival();
+        waitsThatEndAtLast();
         theEnd();
     }
 
@@ -486,6 +489,13 @@ public final class EdgesOfTermsTest {
             x.steps(1);
             Due.is("a CORNER on " + corner, x.hearse(0, 0), want[corner]);
         }
+        int[] past = {5, 5, 3, 3, 3, 3, 5, 5};
+        for (int corner = 0; corner < 8; corner++) {
+            String avenue = ".".repeat(corner) + "c" + ".".repeat(9 - corner);
+            BehindAnotherHearse x = Due.scene(avenue, "2;4", "", "3*(i=0)");
+            x.steps(1);
+            Due.is("the other one on 4, a CORNER on " + corner, x.hearse(0, 0), past[corner]);
+        }
         BehindAnotherHearse y = Due.scene("cccccccccc", "2;6", "", "3*(i=0)");
         y.steps(1);
         Due.is("CORNERS are nothing to one that passes none", y.hearse(0, 0), 5);
@@ -518,12 +528,16 @@ public final class EdgesOfTermsTest {
     private static void mournersChangeOver() {
         // who FOLLOWS hearse 0 on 4, when hearse 1 on 8 is as near, a CELL nearer, a CELL farther
         int[] want = {0, 0, 1};
+        int[] cells = {4, 4, 8};
         for (int k = 0; k < 3; k++) {
             BehindAnotherHearse x = Due.scene("............", "4;8", (5 + k) + "a", "0");
             x.turnsTo(0);
             x.steps(1);
             Due.is("on " + (5 + k), x.mourner(0, 2), want[k]);
             Due.row("on " + (5 + k), x, 2, want[k]);
+            Due.is("towards the one that it FOLLOWS", x.mourner(0, 0), cells[k]);
+            x.steps(1);
+            Due.is("it is there", x.mourner(0, 0), cells[k]);
         }
         BehindAnotherHearse y = Due.scene("............", "4;8", "6a", "0");
         y.steps(1);
@@ -558,6 +572,23 @@ public final class EdgesOfTermsTest {
         y.steps(1);
         Due.is("it FOLLOWED none when that ARRIVED: the nearest one on THE AVENUE", y.mourner(0, 2), 1);
         Due.is("it has not ENDED", y.mourner(0, 3), -1);
+    }
+
+    /** However long all stand still, what THE RULE says of a later STEP counts up to THE END. */
+    private static void waitsThatEndAtLast() {
+        Object[][] rules = {{"t=9", "0", 30}, {"t=8", "0", 29}, {"3*(t=0)*(w=9)", "0000009", 21}, {"w=9", "09", 6}, {"w=9", "009", 9},
+            {"w=9", "0009", 12}, {"w=9", "00000000009", 33}, {"(t=0)*(w=9)", "0000009", 161}, {"(t=9)*(w=9)", "0000000000000000009", -2},
+            {"(t=9)*(w=9)", "009", 90}, {"3*(t=9)*(w=9)", "0000000000000000009", 190}};
+        for (Object[] one : rules) {
+            int steps = (Integer) one[2];
+            BehindAnotherHearse x = Due.scene("....", "0", "0a", (String) one[0]);
+            Due.weather(x, (String) one[1]);
+            Due.is(one[0] + " by " + one[1] + ": arrives", x.arrives(0), steps);
+            Due.is(one[0] + " by " + one[1] + ": right", x.right(), steps > 0 ? 1 : 0);
+            Due.is(one[0] + " by " + one[1] + ": ends", x.ends(0), steps > 0 ? 0 : -2);
+            Due.rule(x, "0");
+            Due.is(one[0] + " by " + one[1] + ": law", Due.law(x, (String) one[0]), steps > 0 ? 1 : 0);
+        }
     }
 
     /** A hearse that comes to THE GATE in the last of 200 STEPS, or in the one behind it. */

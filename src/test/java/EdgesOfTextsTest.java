@@ -127,6 +127,22 @@ public final class EdgesOfTextsTest {
         Due.is("none has ARRIVED", x.hearse(0, 1) + x.count(4), 0);
         x.steps(9);
         Due.is("the first one to ARRIVE is 1 again", x.hearse(0, 1), 1);
+        Due.avenue(x, "c...");
+        Due.is("CORNERS of another one", x.count(7), 1);
+        Due.avenue(x, "....");
+        Due.is("no CORNERS any more", x.count(7), 0);
+        Due.hearses(x, "1");
+        Due.mourners(x, "1a;0a");
+        x.steps(9);
+        Due.is("two have ENDED", x.count(5) * 100 + x.count(6) * 10 + x.count(4), 221);
+        Due.avenue(x, "......");
+        Due.is("none has ENDED any more", x.count(5) * 100 + x.count(6) * 10 + x.count(4), 0);
+        Due.hearses(x, "4");
+        Due.mourners(x, "2a");
+        Due.is("nobody at first", x.mourner(0, 2) + x.mourner(0, 3), -2);
+        Due.is("the sum of those that are there", x.sheet(2, 8, 1, 0), 1);
+        Due.is("right", x.right(), 0);
+        Due.is("strangers", x.strangers(), -2);
     }
 
     // ---- promises 5 and 6
@@ -264,6 +280,8 @@ public final class EdgesOfTextsTest {
             BehindAnotherHearse x = Due.scene("......", "0", "", "3");
             Due.is("rule " + one[0], Due.rule(x, (String) one[0]), -1 - (Integer) one[1]);
             Due.is("THE RULE is as ahead", x.hearse(0, 2), 3);
+            Due.is("a RULE that can stand, then", Due.rule(x, "2"), 0);
+            Due.is("PACE by it", x.hearse(0, 2), 2);
         }
         // thirty-eight signs that can go on, and what comes behind them
         String most = "1+".repeat(19);
@@ -398,6 +416,8 @@ public final class EdgesOfTextsTest {
             Due.is("law " + one[0], Due.law(x, (String) one[0]), -10000 - (Integer) one[1]);
             Due.is("THE RULE is as ahead", x.hearse(0, 2), 3);
             Due.row("the ROW stays", x, 0);
+            Due.is("a law that can stand, then", Due.law(x, "2-2"), -1);
+            Due.row("a law that can stand, then", x, 0, 1);
         }
         BehindAnotherHearse y = Due.scene("......", "0", "0a", "3");
         Due.is("forty signs", Due.law(y, "-".repeat(39) + "1"), -1);
